@@ -196,7 +196,7 @@ public final class QuarrelBook {
 
     public int costs(int s, int rule) {
         if (!book.hasSaying(s) || !within(rule, RULES)) return BAD;
-        return book.prices.sumOf(book.strainOf(s, rule));
+        return book.bench.sumOf(book.strainOf(s, rule));
     }
 
     public int settle(int m) {
@@ -313,9 +313,11 @@ public final class QuarrelBook {
 
     public int runs(int s) {
         if (!book.hasSaying(s)) return BAD;
-        int not = book.sumWithAnswer(s, 0);
-        int owed = book.sumWithAnswer(s, 1);
-        return tell(Math.abs(owed - not), owed == not ? 2 : owed < not ? 1 : 0);
+        Saying saying = book.sayings[s];
+        int asSaid = book.settled()[saying.master].mind.sum;
+        int otherwise = book.sumIfOtherwise(s);
+        if (asSaid == otherwise) return tell(0, 2);
+        return tell(Math.abs(asSaid - otherwise), asSaid < otherwise ? saying.answer : 1 - saying.answer);
     }
 
     public int move(int s, int kind, int v) {
@@ -616,20 +618,6 @@ public final class QuarrelBook {
         }
     }
 
-    private static final class Prices {
-        int amended = 3;
-        int standing = 5;
-        int two = 7;
-
-        /** What strains, of one saying or of nine side by side, cost. */
-        int sumOf(int strains) {
-            int lesser = Math.min(amended, standing);
-            int strained = Integer.bitCount(strains & STRAINED);
-            int stuck = Integer.bitCount(strains >>> MOST_OF_ONE);
-            return lesser * strained + (standing - lesser) * stuck;
-        }
-    }
-
     private static final class Saying {
         int master = 0;
         int instance = 0;
@@ -724,8 +712,11 @@ public final class QuarrelBook {
         }
     }
 
-    /** Where the sayings of one master are weighed by all rules. */
+    /** The prices, and where the sayings of one master are weighed by all rules. */
     private static final class Bench {
+        int amended = 3;
+        int standing = 5;
+        int two = 7;
         final int[] sums = new int[RULES];
         int least = 0;
         int sum = 0;
@@ -733,15 +724,22 @@ public final class QuarrelBook {
         int greater = NONE;
         int gain = 0;
         private final Rules rules;
-        private final Prices prices;
         private final int[] strains = new int[RULES];
         private final int[] candidates = new int[RULES];
 
-        Bench(Rules rules, Prices prices) {
+        Bench(Rules rules) {
             this.rules = rules;
-            this.prices = prices;
         }
 
+        /** What strains, of one saying or of nine side by side, cost. */
+        int sumOf(int together) {
+            int mended = Math.min(amended, standing);
+            int strained = Integer.bitCount(together & STRAINED);
+            int stuck = Integer.bitCount(together >>> MOST_OF_ONE);
+            return mended * strained + (standing - mended) * stuck;
+        }
+
+        /** Weighs by each rule alone. */
         void weigh(Master master, Saying[] sayings, int[] cases) {
             Arrays.fill(strains, 0);
             for (int i = 0; i < master.manyOwn; i++) {
@@ -751,13 +749,8 @@ public final class QuarrelBook {
                     strains[rule] |= rules.strain(rule, traits, saying.answer, saying.because) << i;
                 }
             }
-            takeOneRule();
-            takeTwoRules();
-        }
-
-        private void takeOneRule() {
             for (int rule = 0; rule < RULES; rule++) {
-                sums[rule] = prices.sumOf(strains[rule]);
+                sums[rule] = sumOf(strains[rule]);
                 if (rule == 0 || sums[rule] < least) {
                     least = sums[rule];
                     lesser = rule;
@@ -767,13 +760,14 @@ public final class QuarrelBook {
             greater = NONE;
         }
 
-        private void takeTwoRules() {
-            if (prices.two >= least) return;
+        /** Behind weigh(): takes two rules, if they cost less than one. */
+        void takeTwoRules() {
+            if (two >= least) return;
             int many = gatherCandidates();
             for (int a = 0; a < many; a++) {
                 for (int b = a + 1; b < many; b++) {
                     int both = strains[candidates[a]] & strains[candidates[b]];
-                    int cost = prices.two + prices.sumOf(both);
+                    int cost = two + sumOf(both);
                     if (cost >= sum) continue;
                     sum = cost;
                     lesser = candidates[a];
@@ -831,11 +825,11 @@ public final class QuarrelBook {
         }
 
         private int costParted(int ahead) {
-            int leastAhead = prices.sumOf(strains[0] & ahead);
-            int leastFrom = prices.sumOf(strains[0] & ~ahead);
+            int leastAhead = sumOf(strains[0] & ahead);
+            int leastFrom = sumOf(strains[0] & ~ahead);
             for (int rule = 1; rule < RULES; rule++) {
-                leastAhead = Math.min(leastAhead, prices.sumOf(strains[rule] & ahead));
-                leastFrom = Math.min(leastFrom, prices.sumOf(strains[rule] & ~ahead));
+                leastAhead = Math.min(leastAhead, sumOf(strains[rule] & ahead));
+                leastFrom = Math.min(leastFrom, sumOf(strains[rule] & ~ahead));
             }
             return leastAhead + leastFrom;
         }
@@ -844,8 +838,7 @@ public final class QuarrelBook {
     /** The cases, masters, sayings and prices. Callers ask has..() ahead of using a number. */
     private static final class Book {
         final Rules rules = new Rules();
-        final Prices prices = new Prices();
-        final Bench bench = new Bench(rules, prices);
+        final Bench bench = new Bench(rules);
         final int[] cases = new int[MOST_CASES];
         int manyCases = 0;
         final Master[] masters = new Master[MOST_MASTERS];
@@ -910,9 +903,9 @@ public final class QuarrelBook {
         }
 
         void reprice(int amended, int standing, int two) {
-            prices.amended = amended;
-            prices.standing = standing;
-            prices.two = two;
+            bench.amended = amended;
+            bench.standing = standing;
+            bench.two = two;
             for (int m = 0; m < manyMasters; m++) masters[m].mind.known = false;
         }
 
@@ -949,6 +942,7 @@ public final class QuarrelBook {
             for (int m = 0; m < manyMasters; m++) {
                 if (masters[m].mind.known) continue;
                 bench.weigh(masters[m], sayings, cases);
+                bench.takeTwoRules();
                 masters[m].mind.learn(bench, rules);
             }
             return masters;
@@ -959,12 +953,13 @@ public final class QuarrelBook {
             return bench.firstChange(masters[m], sayings);
         }
 
-        int sumWithAnswer(int s, int answer) {
+        /** At what sum his master would be settled, if a saying answered otherwise. */
+        int sumIfOtherwise(int s) {
             Saying saying = sayings[s];
-            int stays = saying.answer;
-            saying.answer = answer;
+            saying.answer = 1 - saying.answer;
             bench.weigh(masters[saying.master], sayings, cases);
-            saying.answer = stays;
+            bench.takeTwoRules();
+            saying.answer = 1 - saying.answer;
             return bench.sum;
         }
 
@@ -1023,9 +1018,9 @@ public final class QuarrelBook {
                 for (int what = 0; what < SAYING_FIGURES; what++) h = 31 * h + sayings[s].figure(what);
                 for (int c = 0; c < MOST_COPIES; c++) h = 31 * h + sayings[s].copies[c];
             }
-            h = 31 * h + prices.amended;
-            h = 31 * h + prices.standing;
-            return 31 * h + prices.two;
+            h = 31 * h + bench.amended;
+            h = 31 * h + bench.standing;
+            return 31 * h + bench.two;
         }
     }
 
@@ -1095,7 +1090,7 @@ public final class QuarrelBook {
                 case AMENDED: return traits ^ 1 << move.value;
                 case TWO: return sayingsFrom(saying.master, move.value);
                 default:
-                    return book.prices.sumOf(book.strainOf(move.about, masters[saying.master].mind.lesser));
+                    return book.bench.sumOf(book.strainOf(move.about, masters[saying.master].mind.lesser));
             }
         }
 

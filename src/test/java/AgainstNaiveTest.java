@@ -27,6 +27,8 @@ public final class AgainstNaiveTest {
     private final NaiveBook twin = new NaiveBook();
     // How wild the numbers are: a run of ordinary ones gets further, one of wild ones is refused more.
     private final int wildness;
+    private int begun = 0;
+    private int objectedTo = 0;
 
     private AgainstNaiveTest(long seed) {
         random = new Random(seed);
@@ -36,7 +38,8 @@ public final class AgainstNaiveTest {
     public static void main(String[] args) throws ReflectiveOperationException {
         for (int run = 0; run < RUNS; run++) {
             AgainstNaiveTest test = new AgainstNaiveTest(run);
-            test.settleIn();
+            if (run % 5 == 1) test.fillUp();
+            else test.settleIn();
             for (int call = test.begun; call < CALLS / 2; call++) {
                 if (!test.callOne(run)) break;
             }
@@ -44,7 +47,29 @@ public final class AgainstNaiveTest {
         Check.finish();
     }
 
-    private int begun = 0;
+    /** As many cases, masters, sayings, moves, rows and texts as there can be. */
+    private void fillUp() throws ReflectiveOperationException {
+        for (int c = 0; c < 12; c++) same("instance", random.nextInt(32));
+        for (int m = 0; m < 8; m++) {
+            int born = random.nextInt(100);
+            same("master", born, born + random.nextInt(90), m == 0 ? QuarrelBook.NONE : random.nextInt(m));
+        }
+        for (int s = 0; s < 24; s++) {
+            int m = s < 9 ? 7 : s % 8 == 7 ? 0 : s % 8;
+            same("saying", m, random.nextInt(12), yearOf(m), random.nextInt(2), draw('w'));
+        }
+        for (int m = 0; m < 20; m++) {
+            int s = random.nextInt(24);
+            same("move", s, 1, (s + 1 + random.nextInt(23)) % 24);
+            same("move", s, 2 + random.nextInt(3), random.nextInt(5));
+        }
+        for (int r = 0; r < 6; r++) same("row", r, 40);
+        for (int t = 0; t < 4; t++) same("text", t, 40);
+        for (int i = 0; i < 4; i++) same("lay", 5, 39 - i, random.nextInt());
+        for (int i = 0; i < 4; i++) same("put", 1, 39 - i, draw('b'));
+        same("mean", 5);
+        same("copy", 5, 20, 0, 20, 20);
+    }
 
     /** Cases and masters enough for sayings to mean something; every other run with many sayings of few masters. */
     private void settleIn() throws ReflectiveOperationException {
@@ -64,7 +89,14 @@ public final class AgainstNaiveTest {
         for (int i = 0; i < args.length; i++) args[i] = draw(called[1].charAt(i));
         if (called[0].equals("saying") && random.nextInt(10) > 0) args[2] = yearOf(args[0]);
         if (called[0].equals("sayings") && random.nextInt(10) > 0) args[1] = yearOf(args[0]);
+        if (called[0].equals("move")) aimMove(args);
         return same(called[0], args);
+    }
+
+    /** Most answers are about the saying that was objected to last, or follow() would find little to close. */
+    private void aimMove(int[] args) {
+        if (args[1] == 1) objectedTo = args[0];
+        else if (random.nextInt(4) > 0) args[0] = objectedTo;
     }
 
     private int yearOf(int m) {

@@ -316,6 +316,7 @@ public final class PagesTest {
         answered("{a, b} owed, by rules of master 1", 0, 2, AMENDED, 1, true);
         answered("{a, b} owed, by rules of master 0", 0, 1, AMENDED, 1, false);
         answered("{a, c} owed, by rules of master 0", 0, 1, AMENDED, 2, true);
+        answered("{} not, by rules of master 0", 2, 0, AMENDED, 0, true);
         QuarrelBook x = withPage();
         int because = x.saying(2, 0, 5, 1, 2);
         x.move(because, OBJECTION, 1);

@@ -125,6 +125,12 @@ public final class PeopleTest {
             Check.finds("sayings of a row with " + v, x, x.sayings(0, 130, 0), UNLIKE);
         }
         Check.due("count(2): all or none", x.count(2), 0);
+        x.lay(0, 2, 0);
+        x.lay(0, 0, 130);
+        Check.finds("sayings of a row that begins with 130", x, x.sayings(0, 130, 0), UNLIKE);
+        x.instance(7);
+        x.lay(0, 0, 3);
+        Check.finds("sayings of a fourth case of three", x, x.sayings(0, 130, 0), UNLIKE);
         x.row(1, 40);
         Check.due("sayings(0, 130, 1): 40", x.sayings(0, 130, 1), FULL);
         x.lay(1, 39, 999);

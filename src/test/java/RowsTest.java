@@ -140,12 +140,15 @@ public final class RowsTest {
         x.lay(1, 0, Integer.MAX_VALUE);
         x.lay(1, 1, Integer.MAX_VALUE);
         Check.both("mean(1) of two greatest ints", x, x.mean(1), 1, Integer.MAX_VALUE);
+        x.row(4, 40);
+        for (int i = 0; i < 40; i++) x.lay(4, i, 100 + i);
+        Check.both("mean(4) of forty", x, x.mean(4), 1, 119);
         x.row(2, 0);
         Check.finds("mean(2)", x, x.mean(2), NOUGHT);
         Check.finds("mean(3)", x, x.mean(3), NOTHING);
         Check.due("mean(6)", x.mean(6), QuarrelBook.BAD);
         Check.due("mean(-1)", x.mean(-1), QuarrelBook.BAD);
-        Check.due("asked() stays", x.asked(), Integer.MAX_VALUE);
+        Check.due("asked() stays", x.asked(), 119);
     }
 
     private static void text() {

@@ -19,6 +19,7 @@ public final class RulesTest {
         plain();
         changed();
         changedEdges();
+        changedToTheOneRule();
         parts();
         Check.finish();
     }
@@ -371,6 +372,25 @@ public final class RulesTest {
         Check.both("alike: the first: changed(1)", x, x.changed(1), 100, 0);
         x.saying(1, 0, 103, 0, NONE);
         Check.both("alike gains: the first: changed(1)", x, x.changed(1), 101, 3);
+    }
+
+    /** Only always owes both {} and all traits; only a owes {a} and all, and not {}. */
+    private static void changedToTheOneRule() {
+        int[][] always = {{0, 1}, {31, 1}};
+        int[][] a = {{1, 1}, {31, 1}, {0, 0}};
+        int[][] never = {{0, 0}, {1, 0}, {31, 0}};
+        changesFrom("always to never", always, never, 6);
+        changesFrom("never to always", never, always, 6);
+        changesFrom("a to never", a, never, 6);
+        changesFrom("never to a", never, a, 6);
+    }
+
+    private static void changesFrom(String name, int[][] before, int[][] after, int less) {
+        QuarrelBook x = new QuarrelBook();
+        x.master(0, 99, NONE);
+        for (int[] one : after) x.saying(0, x.instance(one[0]), 30, one[1], NONE);
+        for (int[] one : before) x.saying(0, x.instance(one[0]), 20, one[1], NONE);
+        Check.both(name + ": changed(0)", x, x.changed(0), 21, less);
     }
 
     private static void parts() {
