@@ -58,7 +58,7 @@ public final class LawTest {
         // Owed by always (3) and a (1), not by not a (2) and not a (1).
         Check.both("four to three: law(2, 1)", x, x.law(2, 1), 1, 4);
         x.master(0, 100, 1);
-        // Always has four votes, not a three of its own and one of the silent one's teacher.
+        // A silent pupil more of master 1 is a vote more for 0 and for 1.
         Check.both("five to four: law(2, 1)", x, x.law(2, 1), 1, 5);
         x.saying(4, 0, 99, 0, NONE);
         Check.both("five to five, asked() stays: law(2, 1)", x, x.law(2, 1), NONE, 5);

@@ -254,6 +254,7 @@ public final class PagesTest {
         Check.due("amended: {a} without a", marked(x, 0, AMENDED, 0), 0);
         Check.due("amended: {} with e", marked(x, 3, AMENDED, 4), 16);
         Check.due("two from 50 on", marked(x, 1, TWO, 50), 2);
+        Check.due("two from 0 on", marked(x, 1, TWO, 0), 2);
         Check.due("two from 51 on", marked(x, 0, TWO, 51), 1);
         Check.due("two from 61 on", marked(x, 0, TWO, 61), 0);
         int left = x.move(1, LEFT, 0);
