@@ -1,5 +1,3 @@
-import java.lang.reflect.Method;
-import java.util.Arrays;
 import java.util.Random;
 
 /**
@@ -7,7 +5,7 @@ import java.util.Random;
  * be the same. The runs are always the same ones: the seeds are told.
  */
 public final class AgainstNaiveTest {
-    private static final int RUNS = 60, CALLS = 512;
+    private static final int RUNS = 80, CALLS = 512;
 
     // Each call with what its arguments are: a letter of draw() an argument. A name that stands more often is
     // called more often.
@@ -28,6 +26,8 @@ public final class AgainstNaiveTest {
     // How wild the numbers are: a run of ordinary ones gets further, one of wild ones is refused more.
     private final int wildness;
     private int begun = 0;
+    // All calls of the object, those that only look at it too: it is used for 512 at most.
+    private int made = 0;
     private int objectedTo = 0;
 
     private AgainstNaiveTest(long seed) {
@@ -35,20 +35,21 @@ public final class AgainstNaiveTest {
         wildness = seed % 4 == 0 ? 6 : 60;
     }
 
-    public static void main(String[] args) throws ReflectiveOperationException {
+    public static void main(String[] args) {
         for (int run = 0; run < RUNS; run++) {
             AgainstNaiveTest test = new AgainstNaiveTest(run);
             if (run % 5 == 1) test.fillUp();
             else test.settleIn();
-            for (int call = test.begun; call < CALLS / 2; call++) {
-                if (!test.callOne(run)) break;
+            while (test.made < CALLS - 12) {
+                if (!test.callOne()) break;
             }
+            test.sameState("the last of run " + run);
         }
         Check.finish();
     }
 
     /** As many cases, masters, sayings, moves, rows and texts as there can be. */
-    private void fillUp() throws ReflectiveOperationException {
+    private void fillUp() {
         for (int c = 0; c < 12; c++) same("instance", random.nextInt(32));
         for (int m = 0; m < 8; m++) {
             int born = random.nextInt(100);
@@ -72,7 +73,7 @@ public final class AgainstNaiveTest {
     }
 
     /** Cases and masters enough for sayings to mean something; every other run with many sayings of few masters. */
-    private void settleIn() throws ReflectiveOperationException {
+    private void settleIn() {
         int cases = 3 + random.nextInt(9);
         for (int c = 0; c < cases; c++) same("instance", random.nextInt(32));
         int masters = 1 + random.nextInt(4);
@@ -83,7 +84,7 @@ public final class AgainstNaiveTest {
         if (random.nextInt(3) > 0) same("prices", random.nextInt(9), random.nextInt(20), random.nextInt(9));
     }
 
-    private boolean callOne(int run) throws ReflectiveOperationException {
+    private boolean callOne() {
         String[] called = CALLED[random.nextInt(CALLED.length)].split(" ", -1);
         int[] args = new int[called[1].length()];
         for (int i = 0; i < args.length; i++) args[i] = draw(called[1].charAt(i));
@@ -150,27 +151,23 @@ public final class AgainstNaiveTest {
     }
 
     /** Calls both; whether they answered the same. */
-    private boolean same(String name, int... args) throws ReflectiveOperationException {
+    private boolean same(String name, int... args) {
         begun++;
-        long got = ((Number) methodOf(QuarrelBook.class, name, args.length).invoke(book, boxed(args))).longValue();
-        long want = ((Number) methodOf(NaiveBook.class, name, args.length).invoke(twin, boxed(args))).longValue();
-        String call = "call " + begun + ": " + name + Arrays.toString(args);
+        made += 2;
+        long got = Calls.call(book, name, args);
+        long want = Calls.call(twin, name, args);
+        String call = "call " + begun + ": " + Calls.named(name, args);
         Check.due(call, got, want);
         Check.due(call + ", then asked()", book.asked(), twin.asked());
-        Check.due(call + ", then digest()", book.digest(), twin.digest());
-        Check.due(call + ", then finding()", book.finding(), twin.finding());
+        if (begun % 6 == 0) sameState(call);
         return got == want;
     }
 
-    private static Object[] boxed(int[] args) {
-        Object[] boxed = new Object[args.length];
-        for (int i = 0; i < args.length; i++) boxed[i] = args[i];
-        return boxed;
-    }
-
-    private static Method methodOf(Class<?> owner, String name, int many) throws ReflectiveOperationException {
-        Class<?>[] types = new Class<?>[many];
-        Arrays.fill(types, int.class);
-        return owner.getMethod(name, types);
+    private void sameState(String call) {
+        made += 4;
+        Check.due(call + ", then digest()", book.digest(), twin.digest());
+        Check.due(call + ", then finding()", book.finding(), twin.finding());
+        Check.due(call + ", then upper()", book.upper(), twin.upper());
+        Check.due(call + ", then lower()", book.lower(), twin.lower());
     }
 }

@@ -2,22 +2,28 @@
 final class Check {
     private static int made = 0;
     private static int wrong = 0;
+    private static String sentence = "";
 
     private Check() {
+    }
+
+    /** The sentence of the document that the checks behind this are about: told with each that is wrong. */
+    static void about(String ofTheDocument) {
+        sentence = "[" + ofTheDocument + "] ";
     }
 
     static void due(String call, long got, long want) {
         made++;
         if (got == want) return;
         wrong++;
-        System.out.println(call + " answered " + got + ", due is " + want);
+        System.out.println(sentence + call + " answered " + got + ", due is " + want);
     }
 
     static void holds(String claim, boolean is) {
         made++;
         if (is) return;
         wrong++;
-        System.out.println("does not hold: " + claim);
+        System.out.println(sentence + "does not hold: " + claim);
     }
 
     /** A call that tells something aside: its answer, then asked(). */
