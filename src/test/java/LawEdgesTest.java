@@ -97,8 +97,8 @@ public final class LawEdgesTest {
 
     private static void lawByOneMore() {
         Check.about("42: 0 by the more; votes for owed by asked()");
-        int[][] odd = {{1}, {0}, {1, 1, 0}, {0, 1, 0}, {1, 1, 1, 1, 0, 0, 0}, {0, 0, 0, 0, 1, 1, 1}, {1, 1, 1, 1, 1, 1, 1, 1},
-            {0, 0, 0, 0, 0, 0, 0, 0}, {1, 1, 1, 1, 1, 0, 0, 0}, {1, 1, 1, 0, 0, 0, 0, 0}};
+        int[][] odd = {{1}, {0}, {1, 1, 0}, {0, 1, 0}, {1, 1, 1, 1, 0, 0, 0}, {0, 0, 0, 0, 1, 1, 1},
+            {1, 1, 1, 1, 1, 1, 1, 1}, {0, 0, 0, 0, 0, 0, 0, 0}, {1, 1, 1, 1, 1, 0, 0, 0}, {1, 1, 1, 0, 0, 0, 0, 0}};
         for (int[] one : odd) {
             int owed = 0;
             for (int answer : one) owed += answer;
@@ -304,6 +304,7 @@ public final class LawEdgesTest {
         // Settled by always and a; cheap are, by one rule alone, those that have to have just one trait.
         Check.due("second(0)", y.second(0), 1);
         Check.due("by one rule alone: fresh(0, 0)", y.fresh(0, 0), 0);
+        for (int set = 1; set < 32; set++) Check.due("fresh(0, " + set + ")", y.fresh(0, set), 2);
     }
 
     private static void freshForNothing() {

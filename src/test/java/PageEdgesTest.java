@@ -333,6 +333,10 @@ public final class PageEdgesTest {
         z.saying(0, 0, 50, 0, NONE);
         Check.both("the ninth, by 99: runs(8)", z, z.runs(8), 1, 99);
         Check.both("99 by one or by two: runs(0)", z, z.runs(0), 2, 0);
+        QuarrelBook both = torn(4, 2);
+        both.prices(3, 5, 99);
+        Check.both("two that do not fit, or one: runs(5)", both, both.runs(5), 1, 3);
+        Check.both("two that do not fit, or three: runs(0)", both, both.runs(0), 1, 3);
     }
 
     private static void runsLeavesTheSaying() {
@@ -642,15 +646,27 @@ public final class PageEdgesTest {
         closes("without sayings: not", two(said(0, 5, 1, NONE), 1, said(0, 5, 0, NONE)), HELD, 2, false);
         closes("its because is not looked at", two(said(0, 5, 1, NONE), 1, said(0, 5, 1, 4)), HELD, 2, true);
         closes("of the other one's master", two(said(0, 5, 1, NONE), 1, said(0, 5, 0, NONE)), HELD, 1, true);
+        closes("its own case is not looked at", two(said(1, 5, 1, NONE), 1, said(0, 5, 0, NONE)), HELD, 1, true);
+        closes("its own answer is not looked at", two(said(1, 5, 1, NONE), 1, said(0, 5, 0, NONE)), HELD, 0, false);
         closes("of its own master", two(said(0, 5, 1, NONE), 1, said(0, 5, 0, NONE)), HELD, 0, false);
     }
 
     private static void followAmended() {
         Check.about("AMENDED, if the SAYING read so FITS a CHEAP RULE of the other one's MASTER");
-        closes("{} read as {a}, by rules without {}", two(said(0, 5, 1, NONE), 1, said(0, 5, 0, NONE)), AMENDED, 0, true);
-        closes("{} read as {e}, by rules without {}", two(said(0, 5, 1, NONE), 1, said(0, 5, 0, NONE)), AMENDED, 4, true);
-        closes("{} read as {a}, by rules without {a}", two(said(0, 5, 1, NONE), 1, said(1, 5, 0, NONE)), AMENDED, 0, false);
-        closes("{} read as {e}, by rules without {e}", two(said(0, 5, 1, NONE), 1, said(16, 5, 0, NONE)), AMENDED, 4, false);
+        int[] none = said(0, 5, 1, NONE);
+        int[] a = said(1, 5, 1, NONE);
+        closes("{} read as {a}, by rules without {}", two(none, 1, said(0, 5, 0, NONE)), AMENDED, 0, true);
+        closes("{} read as {e}, by rules without {}", two(none, 1, said(0, 5, 0, NONE)), AMENDED, 4, true);
+        closes("{} read as {a}, by rules without {a}", two(none, 1, said(1, 5, 0, NONE)), AMENDED, 0, false);
+        closes("{} read as {e}, by rules without {e}", two(none, 1, said(16, 5, 0, NONE)), AMENDED, 4, false);
+        closes("{a} read as {}, by rules without {a}", two(a, 1, said(1, 5, 0, NONE)), AMENDED, 0, true);
+        closes("{a} read as {}, by rules without {}", two(a, 1, said(0, 5, 0, NONE)), AMENDED, 0, false);
+        Supplier<QuarrelBook> alwaysAlone = () -> {
+            QuarrelBook x = two(a, 1, none).get();
+            x.saying(1, x.instance(31), 5, 1, NONE);
+            return x;
+        };
+        closes("{a} read as {}, by always alone", alwaysAlone, AMENDED, 0, true);
     }
 
     private static void followTwo() {

@@ -30,11 +30,13 @@ public final class SettledEdgesTest {
         nobodyOfAllAndOfNone();
         plainByMastersWithSayings();
         plainIfAllAreAlike();
+        plainNotIfTwoAreOtherwise();
         plainRefused();
         changedWithoutSayings();
         changedInAYearOfHisLife();
         changedInTheFirstOfAlikeYears();
         changedWithoutAPrice();
+        changedFromAndToAnyRule();
         changedByNineSayings();
         changedRefused();
         partsOfAlikeCases();
@@ -382,6 +384,17 @@ public final class SettledEdgesTest {
         Check.due("all rules are cheap: plain(0)", not.plain(0), 0);
     }
 
+    private static void plainNotIfTwoAreOtherwise() {
+        Check.about("PLAIN: of any MASTER with SAYINGS, the first and the last");
+        for (int first = 0; first < 2; first++) {
+            QuarrelBook x = withMasters(8);
+            x.saying(0, 0, 9, first, NONE);
+            x.saying(7, 0, 9, 1 - first, NONE);
+            Check.due("the first says " + first + ": plain(0)", x.plain(0), 0);
+            Check.due("the first says " + first + ": plain(1)", x.plain(1), 0);
+        }
+    }
+
     private static void plainRefused() {
         Check.about("29: BAD");
         for (int s : NO_SAYING) Refused.bad(Books::some, "plain", s);
@@ -451,6 +464,23 @@ public final class SettledEdgesTest {
             Check.both("amended for nothing, two for " + two + ": changed(0)", x, x.changed(0), 0, 0);
             x.prices(5, 0, two);
             Check.both("standing for nothing, two for " + two + ": changed(0)", x, x.changed(0), 0, 0);
+        }
+    }
+
+    private static void changedFromAndToAnyRule() {
+        Check.about("CHANGED: one RULE for his SAYINGS ahead of y and one from y on: 0 .. 243");
+        // Always alone owes {} and all; a alone owes {a} and all, and not {}; the first that owes none of three is !a b.
+        int[][][] minds = {{{0, 1}, {31, 1}}, {{1, 1}, {31, 1}, {0, 0}}, {{0, 0}, {1, 0}, {31, 0}}};
+        for (int[][] ahead : minds) {
+            for (int[][] from : minds) {
+                QuarrelBook x = new QuarrelBook();
+                x.master(0, 99, NONE);
+                for (int[] one : from) x.saying(0, x.instance(one[0]), 30, one[1], NONE);
+                for (int[] one : ahead) x.saying(0, x.instance(one[0]), 20, one[1], NONE);
+                int one = x.settle(0);
+                Check.due("second(0)", x.second(0), NONE);
+                Check.both("two rules that cost nothing", x, x.changed(0), ahead == from ? 0 : 21, one);
+            }
         }
     }
 

@@ -313,7 +313,7 @@ public final class TellingEdgesTest {
     }
 
     private static void digestOfAFullBook() {
-        Check.about("52: of each MASTER life(), of each SAYING told(), what each COPY 0 to 4 reads (NONE), of each MOVE");
+        Check.about("52: life() 0 to 4; told() 0 to 4, what each COPY 0 to 4 reads (NONE); moved() 0 to 2");
         QuarrelBook x = Books.full();
         x.prices(99, 0, 42);
         x.reads(0, 0, 1);
@@ -322,7 +322,8 @@ public final class TellingEdgesTest {
         QuarrelBook asked = Books.full();
         add(values, 12, 8, 24, 40, 20, 6, 4);
         for (int c = 0; c < 12; c++) values.add(asked.traits(c));
-        for (int m = 0; m < 8; m++) add(values, 10 * m, 10 * m + 60, m == 0 ? NONE : m - 1, m < 2 ? 9 : m == 2 ? 6 : 0, 7 - m);
+        int[] said = {9, 9, 6, 0, 0, 0, 0, 0};
+        for (int m = 0; m < 8; m++) add(values, 10 * m, 10 * m + 60, m == 0 ? NONE : m - 1, said[m], 7 - m);
         for (int s = 0; s < 24; s++) {
             for (int what = 0; what < 5; what++) values.add(told(asked, "told", s, what));
             for (int copy = 0; copy < 5; copy++) {
