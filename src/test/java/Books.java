@@ -12,10 +12,11 @@ final class Books {
     /**
      * Some of everything, and nothing as in a new book.
      *
-     * <p>Row 0 has 5 places, row 1 none, row 2 has 40; 3 to 5 are missing. Text 0 is a rule, text 1 is empty, text 2 has
-     * a fault; 3 is missing. Three cases: {a}, {a, b}, {}. Three masters: 0 lives from 10 to 80, 1 (taught by 0) from 20
-     * to 90, 2 (taught by 1) in 30 alone and says nothing. Four sayings, two of each of the first two masters. Seven
-     * moves, move k of kind k. Each finding was answered once, NOUGHT last. asked() tells 50, the fraction is 5 by 9.
+     * <p>Row 0 has 5 places, row 1 none, row 2 has 40; 3 to 5 are missing. Text 0 is a rule, text 1 is empty, text 2
+     * has a fault; 3 is missing. Three cases: {a}, {a, b}, {}. Three masters: 0 lives from 10 to 80, 1 (taught by 0)
+     * from 20 to 90, 2 (taught by 1) in 30 alone and says nothing. Four sayings, two of each of the first two masters.
+     * Seven moves, move k of kind k. Each finding was answered once, NOUGHT last. asked() tells 50, the fraction is 5
+     * by 9.
      */
     static QuarrelBook some() {
         QuarrelBook x = new QuarrelBook();

@@ -13,8 +13,8 @@ public final class EdgeProductsTest {
         "saying mcyab", "sayings myr", "told sf", "traits c", "life mf", "fault t", "rule t", "answers uT", "fits su",
         "prices ppp", "costs su", "settle m", "second m", "cheap m", "cheapAt mu", "all ", "against s", "nobody ",
         "plain s", "changed m", "parts cc", "met mm", "can B", "reads fsa", "reading s", "slip xox", "runs s",
-        "move skd", "moved gf", "mark gk", "follow ", "law fT", "lawsPart ff", "fresh mT", "next ", "asked ", "upper ", "lower ",
-        "count f", "finding ", "findings f", "digest "};
+        "move skd", "moved gf", "mark gk", "follow ", "law fT", "lawsPart ff", "fresh mT", "next ", "asked ",
+        "upper ", "lower ", "count f", "finding ", "findings f", "digest "};
 
     private static final int MIN = Integer.MIN_VALUE, MAX = Integer.MAX_VALUE;
     private static final Map<Character, int[]> EDGES = new HashMap<>();

@@ -388,8 +388,8 @@ public final class PageEdgesTest {
     }
 
     private static final int[][] WRONG_MOVES = {{OBJECTION, -1}, {OBJECTION, 24}, {OBJECTION, NONE}, {OBJECTION, MIN},
-        {OBJECTION, MAX}, {PARTED, -1}, {PARTED, 5}, {PARTED, NONE}, {PARTED, MIN}, {PARTED, MAX}, {HELD, -1}, {HELD, 8},
-        {HELD, NONE}, {HELD, MIN}, {HELD, MAX}, {AMENDED, -1}, {AMENDED, 5}, {AMENDED, NONE}, {AMENDED, MIN},
+        {OBJECTION, MAX}, {PARTED, -1}, {PARTED, 5}, {PARTED, NONE}, {PARTED, MIN}, {PARTED, MAX}, {HELD, -1},
+        {HELD, 8}, {HELD, NONE}, {HELD, MIN}, {HELD, MAX}, {AMENDED, -1}, {AMENDED, 5}, {AMENDED, NONE}, {AMENDED, MIN},
         {AMENDED, MAX}, {TWO, -1}, {TWO, 1000}, {TWO, NONE}, {TWO, MIN}, {TWO, MAX}, {-1, 0}, {7, 0}, {NONE, 0},
         {MIN, 0}, {MAX, 0}};
 

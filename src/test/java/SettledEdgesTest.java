@@ -469,7 +469,7 @@ public final class SettledEdgesTest {
 
     private static void changedFromAndToAnyRule() {
         Check.about("CHANGED: one RULE for his SAYINGS ahead of y and one from y on: 0 .. 243");
-        // Always alone owes {} and all; a alone owes {a} and all, and not {}; the first that owes none of three is !a b.
+        // Always alone owes {} and all; a alone owes {a} and all, and not {}; never is one that owes none of three.
         int[][][] minds = {{{0, 1}, {31, 1}}, {{1, 1}, {31, 1}, {0, 0}}, {{0, 0}, {1, 0}, {31, 0}}};
         for (int[][] ahead : minds) {
             for (int[][] from : minds) {
