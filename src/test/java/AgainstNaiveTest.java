@@ -39,6 +39,7 @@ public final class AgainstNaiveTest {
         for (int run = 0; run < RUNS; run++) {
             AgainstNaiveTest test = new AgainstNaiveTest(run);
             if (run % 5 == 1) test.fillUp();
+            else if (run % 5 == 2) test.tearApart();
             else test.settleIn();
             while (test.made < CALLS - 12) {
                 if (!test.callOne()) break;
@@ -82,6 +83,25 @@ public final class AgainstNaiveTest {
             same("master", born, born + random.nextInt(90), m == 0 ? QuarrelBook.NONE : random.nextInt(m));
         }
         if (random.nextInt(3) > 0) same("prices", random.nextInt(9), random.nextInt(20), random.nextInt(9));
+    }
+
+    /** Masters who contradict themselves until two rules are cheaper, and moves that look at the lesser ones. */
+    private void tearApart() {
+        same("prices", 3 + random.nextInt(6), 4 + random.nextInt(9), random.nextInt(3));
+        for (int c = 0; c < 5; c++) same("instance", random.nextInt(8));
+        for (int m = 0; m < 3; m++) same("master", 10 * m, 90, m == 0 ? QuarrelBook.NONE : m - 1);
+        for (int s = 0; s < 15; s++) {
+            same("saying", s % 3, random.nextInt(5), yearOf(s % 3), random.nextInt(2), draw('w'));
+        }
+        for (int m = 0; m < 3; m++) same("second", m);
+        for (int m = 0; m < 20; m += 2) {
+            int s = random.nextInt(15);
+            int kind = random.nextInt(4) > 0 ? 3 : 6;
+            same("move", s, 1, (s + 1 + random.nextInt(14)) % 15);
+            same("move", s, kind, random.nextInt(3));
+            same("mark", m + 1, kind);
+        }
+        same("follow");
     }
 
     private boolean callOne() {

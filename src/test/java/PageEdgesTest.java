@@ -27,6 +27,8 @@ public final class PageEdgesTest {
         slipRefused();
         runsAlike();
         runsByTheOther();
+        runsByWhatWasSaid();
+        runsWithTheBecause();
         runsLeavesTheSaying();
         runsRefused();
         moveOfEachKind();
@@ -337,6 +339,37 @@ public final class PageEdgesTest {
         both.prices(3, 5, 99);
         Check.both("two that do not fit, or one: runs(5)", both, both.runs(5), 1, 3);
         Check.both("two that do not fit, or three: runs(0)", both, both.runs(0), 1, 3);
+    }
+
+    private static void runsByWhatWasSaid() {
+        Check.about("RUNS: by which answer of a SAYING, whatever its COPIES read");
+        for (int answer = 0; answer < 2; answer++) {
+            QuarrelBook x = torn(2, 1);
+            for (int s = 0; s < 3; s++) {
+                for (int copy = 0; copy < 5; copy++) x.reads(copy, s, answer);
+            }
+            Check.both("all read " + answer + ": runs(2)", x, x.runs(2), 1, 3);
+            Check.both("all read " + answer + ": runs(0)", x, x.runs(0), 2, 0);
+        }
+    }
+
+    private static void runsWithTheBecause() {
+        Check.about("RUNS: by which answer of a SAYING: its because stays by either");
+        QuarrelBook x = new QuarrelBook();
+        x.instance(0);
+        x.instance(1);
+        x.master(0, 99, NONE);
+        x.saying(0, 1, 50, 0, 0);
+        x.saying(0, 0, 50, 1, NONE);
+        // By always {a} could be owed for nothing, if nobody asked for a figure of a.
+        Check.both("{a} because of a, {} is owed: runs(0)", x, x.runs(0), 0, 3);
+        QuarrelBook y = new QuarrelBook();
+        y.instance(0);
+        y.instance(1);
+        y.master(0, 99, NONE);
+        y.saying(0, 1, 50, 1, 0);
+        y.saying(0, 0, 50, 1, NONE);
+        Check.both("the other way round: runs(0)", y, y.runs(0), 0, 3);
     }
 
     private static void runsLeavesTheSaying() {
