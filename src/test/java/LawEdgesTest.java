@@ -29,6 +29,7 @@ public final class LawEdgesTest {
         freshRefused();
         nextWithoutSayings();
         nextOfAlikeOnes();
+        nextIsNotTheOneWithFewestTraits();
         nextIfNobodyIsUnsure();
         nextOfEight();
         Check.finish();
@@ -358,6 +359,16 @@ public final class LawEdgesTest {
         // a may be looked at: of sets with a all are owed, of those without it both may be.
         Check.due("fresh(0, 31)", last.fresh(0, 31), 1);
         Check.both("without a: next()", last, last.next(), 0, 1);
+    }
+
+    private static void nextIsNotTheOneWithFewestTraits() {
+        Check.about("NEXT: of alike ones the least: {a, b}, which is 3, not {c}, which is 4");
+        QuarrelBook x = new QuarrelBook();
+        x.master(0, 9, NONE);
+        for (int traits : new int[] {0, 1, 2}) x.saying(0, x.instance(traits), 5, 0, NONE);
+        Check.due("fresh(0, {a, b})", x.fresh(0, 3), 2);
+        Check.due("fresh(0, {c})", x.fresh(0, 4), 2);
+        Check.both("next()", x, x.next(), 3, 1);
     }
 
     private static void nextIfNobodyIsUnsure() {

@@ -11,6 +11,7 @@ public final class SettledEdgesTest {
         settledByTwoOnlyIfLess();
         settledByTwoForNothing();
         settledByTheFirstTwoOfAlikeOnes();
+        settledByTwoOfWhichNoneFits();
         settledAtTheOutermostPrices();
         settleRefused();
         secondRefused();
@@ -144,6 +145,23 @@ public final class SettledEdgesTest {
         for (int s = 0; s < 3; s++) z.saying(0, 2, 1, 1, 4);
         z.prices(9, 9, 1);
         settledIs("not a, then e", z, 0, 1, 2, 81);
+    }
+
+    private static void settledByTwoOfWhichNoneFits() {
+        Check.about("by two RULES with TWO and of each SAYING the lesser cost: AMENDED, STANDING or 0");
+        QuarrelBook x = new QuarrelBook();
+        x.master(0, 99, NONE);
+        x.saying(0, x.instance(3), 5, 1, 0);
+        x.saying(0, x.instance(4), 5, 1, 2);
+        x.saying(0, x.instance(2), 5, 1, 1);
+        x.prices(3, 9, 0);
+        // No rule fits two of {a, b} because of a, {c} because of c, {b} because of b. By a and b together the first
+        // fits and the last is amended; c fits the other one. By a alone the last one could not be amended.
+        settledIs("a and b, then c", x, 0, 3, 4, 9);
+        x.prices(9, 9, 0);
+        settledIs("as dear as left standing: a, then b", x, 0, 9, 1, 3);
+        x.prices(3, 9, 5);
+        settledIs("two for 5", x, 0, 8, 4, 9);
     }
 
     private static void settledAtTheOutermostPrices() {
@@ -493,6 +511,11 @@ public final class SettledEdgesTest {
         QuarrelBook y = withMasters(1);
         for (int s = 0; s < 9; s++) y.saying(0, 0, 98 - s, s == 0 ? 1 : 0, NONE);
         Check.both("eight, then one: changed(0)", y, y.changed(0), 98, 3);
+        QuarrelBook z = withMasters(1);
+        for (int s = 0; s < 4; s++) z.saying(0, 0, 10 + s, 1, NONE);
+        for (int s = 0; s < 4; s++) z.saying(0, 0, 60 + s, 0, NONE);
+        z.saying(0, 0, 40, 1, NONE);
+        Check.both("behind the one told last: changed(0)", z, z.changed(0), 41, 12);
     }
 
     private static void changedRefused() {
